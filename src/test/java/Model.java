@@ -9,8 +9,9 @@ import java.util.NoSuchElementException;
 import java.util.TreeMap;
 
 /**
- * The document once more, written without a look at the class, for ease of reading and with the
- * whole library: FuzzTest asks both the same. A step that the rules should have ruled out is an error.
+ * The document once more, for ease of reading, in another style than the class and with the whole
+ * library: FuzzTest asks both the same. By the same hand as the class, so it finds slips, not a
+ * misreading of the document. A step that the rules should have ruled out is an error.
  */
 final class Model {
   static final BigInteger LEAST = BigInteger.valueOf(Integer.MIN_VALUE);
