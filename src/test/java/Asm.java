@@ -1,4 +1,7 @@
-/** Words of the machine by name, and the tally of answers that are not as due. */
+/**
+ * Words of the machine by name, and the tally of answers that are not as due, each told with the
+ * sentence of the document that asks for it, where a test names one.
+ */
 final class Asm {
   static final int ANY = 0;
   static final int INT = 1;
@@ -7,8 +10,31 @@ final class Asm {
   static final int MAX = Integer.MAX_VALUE;
   private static int wrong = 0;
   private static int asked = 0;
+  private static int sentences = 0;
+  private static int askedAhead = 0;
+  private static String sentence = "";
 
   private Asm() {
+  }
+
+  /** Names what the answers from here on are due by: where it stands in the document, and its words. */
+  static void sentence(String where, String words) {
+    endSentence();
+    sentences++;
+    askedAhead = asked;
+    sentence = where + ", '" + words + "': ";
+  }
+
+  /** A sentence by which nothing was asked has no test. */
+  private static void endSentence() {
+    if (sentences > 0 && asked == askedAhead) {
+      tell("nothing was asked");
+    }
+  }
+
+  private static void tell(String what) {
+    wrong++;
+    System.out.println(sentence + what);
   }
 
   interface Call {
@@ -18,8 +44,7 @@ final class Asm {
   static void due(String what, long got, long want) {
     asked++;
     if (got != want) {
-      wrong++;
-      System.out.println(what + " answered " + got + ", due is " + want);
+      tell(what + " answered " + got + ", due is " + want);
     }
   }
 
@@ -36,13 +61,14 @@ final class Asm {
       got = e.getClass().getName();
     }
     if (!got.equals(want.getName())) {
-      wrong++;
-      System.out.println(what + " threw " + got + ", due is " + want.getName());
+      tell(what + " threw " + got + ", due is " + want.getName());
     }
   }
 
   static void end(String name) {
-    System.out.println(name + ": " + asked + " answers, " + wrong + " not as due");
+    endSentence();
+    String by = sentences == 0 ? "" : " by " + sentences + " sentences";
+    System.out.println(name + ": " + asked + " answers" + by + ", " + wrong + " not as due");
     if (wrong != 0) {
       System.exit(1);
     }

@@ -65,7 +65,7 @@ public final class ProcessTest {
     Asm.due("run", y.run(100), 40);
     for (int i = 41; i < 300; i++) {
       Asm.due("spawn", y.spawn(1, 1), i);
-      if (y.count(3) == 40) {
+      if (i % 40 == 0) {
         y.run(40);
       }
     }
@@ -110,27 +110,14 @@ public final class ProcessTest {
     Asm.due("all is free", y.count(6), 4096);
   }
 
-  /** Runs straight words as a process, until the EXIT behind them; its yard. */
-  private static RegionYard ran(int... words) {
-    RegionYard y = new RegionYard();
-    int[] all = new int[words.length + 2];
-    System.arraycopy(words, 0, all, 0, words.length);
-    all[words.length] = Asm.set(7, 0);
-    all[words.length + 1] = Asm.exit(7);
-    Asm.loadPlain(y, 8, all);
-    y.spawn(0, 8);
-    Asm.due("run to the end", y.run(500), all.length);
-    return y;
-  }
-
   private static void instructions() {
-    RegionYard y = ran(Asm.set(0, -32768), Asm.set(1, 32767), Asm.move(2, 0), Asm.inc(3, 1, 1), Asm.inc(4, 0, -1),
+    RegionYard y = Small.ran(Asm.set(0, -32768), Asm.set(1, 32767), Asm.move(2, 0), Asm.inc(3, 1, 1), Asm.inc(4, 0, -1),
       Asm.and(5, 0, 0xF0F0), Asm.shift(6, 0, 3));
     int[] want = {-32768, 32767, -32768, 32768, -32769, 0x8000, -4096, 0};
     for (int r = 0; r < 8; r++) {
       Asm.due("register " + r, y.register(0, r), want[r]);
     }
-    RegionYard z = ran(Asm.base(0, 3), Asm.set(1, 11), Asm.store(1, 0, 4), Asm.load(2, 0, 4), Asm.inc(0, 0, 4),
+    RegionYard z = Small.ran(Asm.base(0, 3), Asm.set(1, 11), Asm.store(1, 0, 4), Asm.load(2, 0, 4), Asm.inc(0, 0, 4),
       Asm.set(3, -12), Asm.store(3, 0, -7), Asm.load(4, 0, -7), Asm.load(5, 0, 0), Asm.load(6, 0, -1), Asm.base(1, 65535));
     int[] then = {7, 65535, 11, -12, -12, 11, 0, 0};
     for (int r = 0; r < 8; r++) {
@@ -140,61 +127,30 @@ public final class ProcessTest {
     Asm.due("peek(0)", z.peek(0), -12);
   }
 
-  private static int[] number(int register, int n) {
-    if (n == Asm.MIN) {
-      return new int[] {Asm.set(register, -32768), Asm.set(7, 256), Asm.mul(register, register, 7),
-        Asm.mul(register, register, 7)};
-    }
-    return new int[] {Asm.set(register, n)};
-  }
-
-  private static int computed(int op, int left, int right) {
-    int[] first = number(1, left);
-    int[] second = number(2, right);
-    int[] words = new int[first.length + second.length + 1];
-    System.arraycopy(first, 0, words, 0, first.length);
-    System.arraycopy(second, 0, words, first.length, second.length);
-    words[words.length - 1] = Asm.word(op, 3, 1, 2 << 12);
-    return ran(words).register(0, 3);
-  }
-
   private static void arithmetic() {
     int[] some = {-7, 7, 3, -3, 2, 32767};
     for (int left : some) {
       for (int right : some) {
-        Asm.due("ADD", computed(4, left, right), left + right);
-        Asm.due("SUB", computed(5, left, right), left - right);
-        Asm.due("MUL", computed(6, left, right), left * right);
-        Asm.due("DIV", computed(7, left, right), left / right);
-        Asm.due("REM", computed(8, left, right), left % right);
+        Asm.due("ADD", Small.computed(4, left, right), left + right);
+        Asm.due("SUB", Small.computed(5, left, right), left - right);
+        Asm.due("MUL", Small.computed(6, left, right), left * right);
+        Asm.due("DIV", Small.computed(7, left, right), left / right);
+        Asm.due("REM", Small.computed(8, left, right), left % right);
       }
     }
-    Asm.due("ADD wraps", computed(4, Asm.MIN, -1), Asm.MAX);
-    Asm.due("SUB wraps", computed(5, Asm.MIN, 1), Asm.MAX);
-    Asm.due("MUL wraps", computed(6, Asm.MIN, -1), Asm.MIN);
-    Asm.due("DIV of the least by -1", computed(7, Asm.MIN, -1), Asm.MIN);
-    Asm.due("REM of the least by -1", computed(8, Asm.MIN, -1), 0);
-  }
-
-  /** 0: sets r1, r2; the branch goes to 4, which sets r0 to 1, or on to 3, which exits with 0. */
-  private static int branched(int op, int left, int right) {
-    RegionYard y = new RegionYard();
-    Asm.open(y, 1, Asm.set(1, left), Asm.set(2, right), Asm.word(op, 1, 2, 4), Asm.exit(0), Asm.set(0, 1), Asm.exit(0));
-    Asm.label(y, 0, 0, Asm.zero(0));
-    Asm.label(y, 2, 0, Asm.zero(0), Asm.anyInt(1), Asm.anyInt(2));
-    Asm.label(y, 4, 0);
-    Asm.due("verify", y.verify(), 0);
-    y.spawn(0, 1);
-    y.run(10);
-    return y.process(0, 8);
+    Asm.due("ADD wraps", Small.computed(4, Asm.MIN, -1), Asm.MAX);
+    Asm.due("SUB wraps", Small.computed(5, Asm.MIN, 1), Asm.MAX);
+    Asm.due("MUL wraps", Small.computed(6, Asm.MIN, -1), Asm.MIN);
+    Asm.due("DIV of the least by -1", Small.computed(7, Asm.MIN, -1), Asm.MIN);
+    Asm.due("REM of the least by -1", Small.computed(8, Asm.MIN, -1), 0);
   }
 
   private static void branches() {
-    Asm.due("LESS", branched(16, -1, 0), 1);
-    Asm.due("LESS", branched(16, 0, 0), 0);
-    Asm.due("LESS", branched(16, 1, -1), 0);
-    Asm.due("SAME", branched(17, -1, 0), 0);
-    Asm.due("SAME", branched(17, 5, 5), 1);
+    Asm.due("LESS", Small.branched(16, -1, 0), 1);
+    Asm.due("LESS", Small.branched(16, 0, 0), 0);
+    Asm.due("LESS", Small.branched(16, 1, -1), 0);
+    Asm.due("SAME", Small.branched(17, -1, 0), 0);
+    Asm.due("SAME", Small.branched(17, 5, 5), 1);
   }
 
   /** Program 0's f1 adds 1 to the cell at 2; program 1's f0 calls its f1, which is linked to that. */

@@ -1,8 +1,5 @@
 /** Promise 9 and the rules of section 3: each reason, and the bounds that each OP makes. */
 public final class VerifyTest {
-  /** Word 2 of branch(), without a label: it is reached, and its own JUMP has no label to go to. */
-  private static final int REACHED = 16 * 2 + 1;
-
   private VerifyTest() {
   }
 
@@ -28,46 +25,6 @@ public final class VerifyTest {
     Asm.end("VerifyTest");
   }
 
-  /** Word 0 is an EXIT; the word asked stands at index 1, with these types; at 2 is a JUMP to itself. */
-  private static int verdict(int need, int word, int[][] types, int[]... after) {
-    RegionYard y = new RegionYard();
-    Asm.open(y, need, Asm.exit(0), word, Asm.jump(2));
-    Asm.label(y, 0, 0, Asm.zero(0));
-    Asm.label(y, 1, 0, types);
-    Asm.label(y, 2, 0, after);
-    return y.verify();
-  }
-
-  private static void fault(String what, int need, int word, int reason, int[]... types) {
-    Asm.due(what, verdict(need, word, types), reason == 0 ? 0 : 16 + reason);
-  }
-
-  /** The register becomes exactly LOW .. HIGH: it meets these, and nothing narrower. */
-  private static void makes(String what, int word, int[] result, int[]... types) {
-    int low = result[2];
-    int high = result[3];
-    Asm.due(what + " within", verdict(8, word, types, result), 0);
-    Asm.due(what + " of the other kind", verdict(8, word, types, Asm.type(result[0], 3 - result[1], low, high)), 16 + 4);
-    if (low < high) {
-      Asm.due(what + " LOW", verdict(8, word, types, Asm.type(result[0], result[1], low + 1, high)), 16 + 4);
-      Asm.due(what + " HIGH", verdict(8, word, types, Asm.type(result[0], result[1], low, high - 1)), 16 + 4);
-    }
-    if (low > Asm.MIN) {
-      Asm.due(what + " below", verdict(8, word, types, Asm.type(result[0], result[1], low - 1, low - 1)), 16 + 4);
-    }
-    if (high < Asm.MAX) {
-      Asm.due(what + " above", verdict(8, word, types, Asm.type(result[0], result[1], high + 1, high + 1)), 16 + 4);
-    }
-  }
-
-  private static int[] ints(int register, int low, int high) {
-    return Asm.type(register, Asm.INT, low, high);
-  }
-
-  private static int[] pointer(int register, int low, int high) {
-    return Asm.type(register, Asm.POINTER, low, high);
-  }
-
   private static int startVerdict(int[]... types) {
     RegionYard y = new RegionYard();
     Asm.open(y, 1, Asm.yieldTurn(), Asm.jump(0));
@@ -85,11 +42,11 @@ public final class VerifyTest {
     Asm.open(bare, 1, Asm.giveBack());
     Asm.due("index 0 is no label", bare.verify(), 12);
     Asm.due("start of any", startVerdict(), 0);
-    Asm.due("start of 0 .. 0", startVerdict(ints(7, 0, 0)), 0);
-    Asm.due("start of -1 .. 1", startVerdict(ints(7, -1, 1)), 0);
-    Asm.due("start of 1 .. 1", startVerdict(ints(7, 1, 1)), 12);
-    Asm.due("start of -1 .. -1", startVerdict(ints(3, -1, -1)), 12);
-    Asm.due("start of a POINTER", startVerdict(pointer(0, 0, 0)), 12);
+    Asm.due("start of 0 .. 0", startVerdict(Small.ints(7, 0, 0)), 0);
+    Asm.due("start of -1 .. 1", startVerdict(Small.ints(7, -1, 1)), 0);
+    Asm.due("start of 1 .. 1", startVerdict(Small.ints(7, 1, 1)), 12);
+    Asm.due("start of -1 .. -1", startVerdict(Small.ints(3, -1, -1)), 12);
+    Asm.due("start of a POINTER", startVerdict(Small.pointer(0, 0, 0)), 12);
   }
 
   /** Every register that an OP reads: any and the wrong kinds are 2. */
@@ -97,123 +54,116 @@ public final class VerifyTest {
     int[][] one = {null, Asm.type(1, Asm.POINTER, 1, 2)};
     for (int[] wrong : one) {
       int[][] types = wrong == null ? new int[0][] : new int[][] {wrong};
-      fault("EXIT kind", 8, Asm.exit(1), 2, types);
-      fault("AND kind", 8, Asm.and(2, 1, 3), 2, types);
-      fault("SHIFT kind", 8, Asm.shift(2, 1, 3), 2, types);
+      Small.fault("EXIT kind", 8, Asm.exit(1), 2, types);
+      Small.fault("AND kind", 8, Asm.and(2, 1, 3), 2, types);
+      Small.fault("SHIFT kind", 8, Asm.shift(2, 1, 3), 2, types);
       for (int op = 6; op <= 8; op++) {
-        fault("op " + op + " A", 8, Asm.word(op, 3, 1, 2 << 12), 2, with(ints(2, 1, 1), types));
-        fault("op " + op + " B", 8, Asm.word(op, 3, 2, 1 << 12), 2, with(ints(2, 0, 0), types));
+        Small.fault("op " + op + " A", 8, Asm.word(op, 3, 1, 2 << 12), 2, Small.with(Small.ints(2, 1, 1), types));
+        Small.fault("op " + op + " B", 8, Asm.word(op, 3, 2, 1 << 12), 2, Small.with(Small.ints(2, 0, 0), types));
       }
-      fault("STORE D", 8, Asm.store(1, 2, 0), 2, with(pointer(2, 0, 0), types));
+      Small.fault("STORE D", 8, Asm.store(1, 2, 0), 2, Small.with(Small.pointer(2, 0, 0), types));
       for (int op = 16; op <= 17; op++) {
-        fault("op " + op + " D", 8, Asm.word(op, 1, 2, 2), 2, with(ints(2, 1, 1), types));
-        fault("op " + op + " A", 8, Asm.word(op, 2, 1, 2), 2, with(ints(2, 1, 1), types));
-        fault("op " + op + " both", 8, Asm.word(op, 1, 1, 2), 2, types);
+        Small.fault("op " + op + " D", 8, Asm.word(op, 1, 2, 2), 2, Small.with(Small.ints(2, 1, 1), types));
+        Small.fault("op " + op + " A", 8, Asm.word(op, 2, 1, 2), 2, Small.with(Small.ints(2, 1, 1), types));
+        Small.fault("op " + op + " both", 8, Asm.word(op, 1, 1, 2), 2, types);
       }
     }
-    fault("INC any", 8, Asm.inc(2, 1, 1), 2);
-    fault("ADD any", 8, Asm.add(3, 1, 2), 2, ints(1, 0, 0));
-    fault("ADD any", 8, Asm.add(3, 2, 1), 2, ints(1, 0, 0));
-    fault("ADD any", 8, Asm.add(3, 1, 2), 2, pointer(1, 0, 0));
-    fault("ADD POINTERS", 8, Asm.add(3, 1, 2), 2, pointer(1, 0, 0), pointer(2, 0, 0));
-    fault("SUB any", 8, Asm.sub(3, 1, 2), 2, ints(1, 0, 0));
-    fault("SUB any", 8, Asm.sub(3, 2, 1), 2, ints(1, 0, 0));
-    fault("SUB any", 8, Asm.sub(3, 1, 2), 2, pointer(1, 0, 0));
-    fault("SUB POINTERS", 8, Asm.sub(3, 1, 2), 2, pointer(1, 0, 0), pointer(2, 0, 0));
-    fault("SUB INT less POINTER", 8, Asm.sub(3, 1, 2), 2, ints(1, 0, 0), pointer(2, 0, 0));
-    fault("LOAD INT", 8, Asm.load(3, 1, 0), 2, ints(1, 0, 0));
-    fault("LOAD any", 8, Asm.load(3, 1, 0), 2);
-    fault("STORE INT", 8, Asm.store(1, 1, 0), 2, ints(1, 0, 0));
-    fault("STORE any", 8, Asm.store(1, 2, 0), 2, ints(1, 0, 0));
-    fault("EXIT an INT", 8, Asm.exit(1), 0, ints(1, -5, 5));
-    fault("MOVE any", 8, Asm.move(1, 2), 0);
-    Asm.due("MOVE any makes any", verdict(8, Asm.move(1, 2), new int[][] {ints(1, 0, 0)}, ints(1, Asm.MIN, Asm.MAX)), 20);
-    fault("kind ahead of 5", 8, Asm.div(1, 2, 3), 2, ints(3, 0, 0));
-    fault("kind ahead of 3", 8, Asm.store(1, 2, 99), 2, pointer(2, 0, 0));
-    fault("kind ahead of where it goes", 8, Asm.less(1, 2, 77), 2, ints(1, 0, 0));
-  }
-
-  private static int[][] with(int[] first, int[][] others) {
-    int[][] all = new int[others.length + 1][];
-    all[0] = first;
-    System.arraycopy(others, 0, all, 1, others.length);
-    return all;
+    Small.fault("INC any", 8, Asm.inc(2, 1, 1), 2);
+    Small.fault("ADD any", 8, Asm.add(3, 1, 2), 2, Small.ints(1, 0, 0));
+    Small.fault("ADD any", 8, Asm.add(3, 2, 1), 2, Small.ints(1, 0, 0));
+    Small.fault("ADD any", 8, Asm.add(3, 1, 2), 2, Small.pointer(1, 0, 0));
+    Small.fault("ADD POINTERS", 8, Asm.add(3, 1, 2), 2, Small.pointer(1, 0, 0), Small.pointer(2, 0, 0));
+    Small.fault("SUB any", 8, Asm.sub(3, 1, 2), 2, Small.ints(1, 0, 0));
+    Small.fault("SUB any", 8, Asm.sub(3, 2, 1), 2, Small.ints(1, 0, 0));
+    Small.fault("SUB any", 8, Asm.sub(3, 1, 2), 2, Small.pointer(1, 0, 0));
+    Small.fault("SUB POINTERS", 8, Asm.sub(3, 1, 2), 2, Small.pointer(1, 0, 0), Small.pointer(2, 0, 0));
+    Small.fault("SUB INT less POINTER", 8, Asm.sub(3, 1, 2), 2, Small.ints(1, 0, 0), Small.pointer(2, 0, 0));
+    Small.fault("LOAD INT", 8, Asm.load(3, 1, 0), 2, Small.ints(1, 0, 0));
+    Small.fault("LOAD any", 8, Asm.load(3, 1, 0), 2);
+    Small.fault("STORE INT", 8, Asm.store(1, 1, 0), 2, Small.ints(1, 0, 0));
+    Small.fault("STORE any", 8, Asm.store(1, 2, 0), 2, Small.ints(1, 0, 0));
+    Small.fault("EXIT an INT", 8, Asm.exit(1), 0, Small.ints(1, -5, 5));
+    Small.fault("MOVE any", 8, Asm.move(1, 2), 0);
+    Asm.due("MOVE any makes any", Small.verdict(8, Asm.move(1, 2), new int[][] {Small.ints(1, 0, 0)}, Small.ints(1, Asm.MIN, Asm.MAX)), 20);
+    Small.fault("kind ahead of 5", 8, Asm.div(1, 2, 3), 2, Small.ints(3, 0, 0));
+    Small.fault("kind ahead of 3", 8, Asm.store(1, 2, 99), 2, Small.pointer(2, 0, 0));
+    Small.fault("kind ahead of where it goes", 8, Asm.less(1, 2, 77), 2, Small.ints(1, 0, 0));
   }
 
   private static void sums() {
-    makes("SET", Asm.set(1, -7), ints(1, -7, -7));
-    makes("SET least", Asm.set(1, 0x8000), ints(1, -32768, -32768));
-    makes("SET greatest", Asm.set(1, 0x7FFF), ints(1, 32767, 32767));
-    makes("MOVE INT", Asm.move(1, 2), ints(1, 3, 9), ints(2, 3, 9));
-    makes("MOVE POINTER", Asm.move(1, 2), pointer(1, -3, 9), pointer(2, -3, 9));
-    makes("YIELD", Asm.yieldTurn(), ints(1, 3, 9), ints(1, 3, 9));
-    makes("ADD", Asm.add(1, 2, 3), ints(1, -2, 13), ints(2, -5, 6), ints(3, 3, 7));
-    makes("ADD to itself", Asm.add(2, 2, 2), ints(2, -10, 12), ints(2, -5, 6));
-    makes("ADD up to the greatest", Asm.add(1, 2, 3), ints(1, 5, Asm.MAX), ints(2, 5, Asm.MAX - 1), ints(3, 0, 1));
-    makes("ADD above", Asm.add(1, 2, 3), Asm.anyInt(1), ints(2, 5, Asm.MAX), ints(3, 0, 1));
-    makes("ADD all above", Asm.add(1, 2, 3), Asm.anyInt(1), ints(2, Asm.MAX, Asm.MAX), ints(3, 1, 1));
-    makes("ADD down to the least", Asm.add(1, 2, 3), ints(1, Asm.MIN, 4), ints(2, Asm.MIN + 1, 5), ints(3, -1, -1));
-    makes("ADD below", Asm.add(1, 2, 3), Asm.anyInt(1), ints(2, Asm.MIN, 5), ints(3, -1, 0));
-    makes("SUB", Asm.sub(1, 2, 3), ints(1, -12, 3), ints(2, -5, 6), ints(3, 3, 7));
-    makes("SUB of itself", Asm.sub(1, 2, 2), ints(1, -11, 11), ints(2, -5, 6));
-    makes("SUB above", Asm.sub(1, 2, 3), Asm.anyInt(1), ints(2, 0, 0), ints(3, Asm.MIN, Asm.MIN));
-    makes("SUB below", Asm.sub(1, 2, 3), Asm.anyInt(1), ints(2, -2, 0), ints(3, 0, Asm.MAX));
-    makes("SUB to the least", Asm.sub(1, 2, 3), ints(1, Asm.MIN, 0), ints(2, -1, 0), ints(3, 0, Asm.MAX));
-    makes("INC", Asm.inc(1, 2, -3), ints(1, -8, 3), ints(2, -5, 6));
-    makes("INC above", Asm.inc(2, 2, 1), Asm.anyInt(2), ints(2, 0, Asm.MAX));
-    makes("INC below", Asm.inc(2, 2, -1), Asm.anyInt(2), ints(2, Asm.MIN, 0));
+    Small.makes("SET", Asm.set(1, -7), Small.ints(1, -7, -7));
+    Small.makes("SET least", Asm.set(1, 0x8000), Small.ints(1, -32768, -32768));
+    Small.makes("SET greatest", Asm.set(1, 0x7FFF), Small.ints(1, 32767, 32767));
+    Small.makes("MOVE INT", Asm.move(1, 2), Small.ints(1, 3, 9), Small.ints(2, 3, 9));
+    Small.makes("MOVE POINTER", Asm.move(1, 2), Small.pointer(1, -3, 9), Small.pointer(2, -3, 9));
+    Small.makes("YIELD", Asm.yieldTurn(), Small.ints(1, 3, 9), Small.ints(1, 3, 9));
+    Small.makes("ADD", Asm.add(1, 2, 3), Small.ints(1, -2, 13), Small.ints(2, -5, 6), Small.ints(3, 3, 7));
+    Small.makes("ADD to itself", Asm.add(2, 2, 2), Small.ints(2, -10, 12), Small.ints(2, -5, 6));
+    Small.makes("ADD up to the greatest", Asm.add(1, 2, 3), Small.ints(1, 5, Asm.MAX), Small.ints(2, 5, Asm.MAX - 1), Small.ints(3, 0, 1));
+    Small.makes("ADD above", Asm.add(1, 2, 3), Asm.anyInt(1), Small.ints(2, 5, Asm.MAX), Small.ints(3, 0, 1));
+    Small.makes("ADD all above", Asm.add(1, 2, 3), Asm.anyInt(1), Small.ints(2, Asm.MAX, Asm.MAX), Small.ints(3, 1, 1));
+    Small.makes("ADD down to the least", Asm.add(1, 2, 3), Small.ints(1, Asm.MIN, 4), Small.ints(2, Asm.MIN + 1, 5), Small.ints(3, -1, -1));
+    Small.makes("ADD below", Asm.add(1, 2, 3), Asm.anyInt(1), Small.ints(2, Asm.MIN, 5), Small.ints(3, -1, 0));
+    Small.makes("SUB", Asm.sub(1, 2, 3), Small.ints(1, -12, 3), Small.ints(2, -5, 6), Small.ints(3, 3, 7));
+    Small.makes("SUB of itself", Asm.sub(1, 2, 2), Small.ints(1, -11, 11), Small.ints(2, -5, 6));
+    Small.makes("SUB above", Asm.sub(1, 2, 3), Asm.anyInt(1), Small.ints(2, 0, 0), Small.ints(3, Asm.MIN, Asm.MIN));
+    Small.makes("SUB below", Asm.sub(1, 2, 3), Asm.anyInt(1), Small.ints(2, -2, 0), Small.ints(3, 0, Asm.MAX));
+    Small.makes("SUB to the least", Asm.sub(1, 2, 3), Small.ints(1, Asm.MIN, 0), Small.ints(2, -1, 0), Small.ints(3, 0, Asm.MAX));
+    Small.makes("INC", Asm.inc(1, 2, -3), Small.ints(1, -8, 3), Small.ints(2, -5, 6));
+    Small.makes("INC above", Asm.inc(2, 2, 1), Asm.anyInt(2), Small.ints(2, 0, Asm.MAX));
+    Small.makes("INC below", Asm.inc(2, 2, -1), Asm.anyInt(2), Small.ints(2, Asm.MIN, 0));
   }
 
   private static void pointers() {
-    makes("BASE", Asm.base(1, 0xFFFF), pointer(1, 65535, 65535));
-    makes("BASE 0", Asm.base(1, 0), pointer(1, 0, 0));
-    makes("POINTER + INT", Asm.add(1, 2, 3), pointer(1, -2, 13), pointer(2, -5, 6), ints(3, 3, 7));
-    makes("INT + POINTER", Asm.add(1, 3, 2), pointer(1, -2, 13), pointer(2, -5, 6), ints(3, 3, 7));
-    makes("POINTER - INT", Asm.sub(1, 2, 3), pointer(1, -12, 3), pointer(2, -5, 6), ints(3, 3, 7));
-    makes("INC POINTER", Asm.inc(1, 2, 5), pointer(1, 0, 11), pointer(2, -5, 6));
-    makes("POINTER to 1000000", Asm.add(1, 2, 3), pointer(1, -1000000, 1000000), pointer(2, 0, 0), ints(3, -1000000, 1000000));
-    fault("POINTER + to 1000001", 8, Asm.add(1, 2, 3), 6, pointer(2, 0, 1), ints(3, 0, 1000000));
-    fault("POINTER + to -1000001", 8, Asm.add(1, 3, 2), 6, pointer(2, -1, 0), ints(3, -1000000, 0));
-    fault("POINTER - to 1000001", 8, Asm.sub(1, 2, 3), 6, pointer(2, 0, 1), ints(3, -1000000, 0));
-    fault("POINTER - to -1000001", 8, Asm.sub(1, 2, 3), 6, pointer(2, -1, 0), ints(3, 0, 1000000));
-    fault("POINTER - all above", 8, Asm.sub(1, 2, 3), 6, pointer(2, 0, 0), ints(3, -3000000, -2000000));
-    fault("POINTER + wraps", 8, Asm.add(1, 2, 3), 6, pointer(2, Asm.MAX, Asm.MAX), ints(3, Asm.MAX, Asm.MAX));
-    fault("POINTER + wraps below", 8, Asm.add(1, 2, 3), 6, pointer(2, Asm.MIN, Asm.MIN), ints(3, Asm.MIN, Asm.MIN));
-    fault("INC POINTER too far", 8, Asm.inc(1, 2, 1), 6, pointer(2, 0, 1000000));
-    fault("INC POINTER too low", 8, Asm.inc(1, 2, -1), 6, pointer(2, -1000000, 0));
-    fault("INC POINTER by 0, told too far", 8, Asm.inc(1, 2, 0), 6, pointer(2, 0, 1000001));
-    fault("INC POINTER back", 8, Asm.inc(1, 2, -1), 0, pointer(2, 5, 1000001));
+    Small.makes("BASE", Asm.base(1, 0xFFFF), Small.pointer(1, 65535, 65535));
+    Small.makes("BASE 0", Asm.base(1, 0), Small.pointer(1, 0, 0));
+    Small.makes("POINTER + INT", Asm.add(1, 2, 3), Small.pointer(1, -2, 13), Small.pointer(2, -5, 6), Small.ints(3, 3, 7));
+    Small.makes("INT + POINTER", Asm.add(1, 3, 2), Small.pointer(1, -2, 13), Small.pointer(2, -5, 6), Small.ints(3, 3, 7));
+    Small.makes("POINTER - INT", Asm.sub(1, 2, 3), Small.pointer(1, -12, 3), Small.pointer(2, -5, 6), Small.ints(3, 3, 7));
+    Small.makes("INC POINTER", Asm.inc(1, 2, 5), Small.pointer(1, 0, 11), Small.pointer(2, -5, 6));
+    Small.makes("POINTER to 1000000", Asm.add(1, 2, 3), Small.pointer(1, -1000000, 1000000), Small.pointer(2, 0, 0), Small.ints(3, -1000000, 1000000));
+    Small.fault("POINTER + to 1000001", 8, Asm.add(1, 2, 3), 6, Small.pointer(2, 0, 1), Small.ints(3, 0, 1000000));
+    Small.fault("POINTER + to -1000001", 8, Asm.add(1, 3, 2), 6, Small.pointer(2, -1, 0), Small.ints(3, -1000000, 0));
+    Small.fault("POINTER - to 1000001", 8, Asm.sub(1, 2, 3), 6, Small.pointer(2, 0, 1), Small.ints(3, -1000000, 0));
+    Small.fault("POINTER - to -1000001", 8, Asm.sub(1, 2, 3), 6, Small.pointer(2, -1, 0), Small.ints(3, 0, 1000000));
+    Small.fault("POINTER - all above", 8, Asm.sub(1, 2, 3), 6, Small.pointer(2, 0, 0), Small.ints(3, -3000000, -2000000));
+    Small.fault("POINTER + wraps", 8, Asm.add(1, 2, 3), 6, Small.pointer(2, Asm.MAX, Asm.MAX), Small.ints(3, Asm.MAX, Asm.MAX));
+    Small.fault("POINTER + wraps below", 8, Asm.add(1, 2, 3), 6, Small.pointer(2, Asm.MIN, Asm.MIN), Small.ints(3, Asm.MIN, Asm.MIN));
+    Small.fault("INC POINTER too far", 8, Asm.inc(1, 2, 1), 6, Small.pointer(2, 0, 1000000));
+    Small.fault("INC POINTER too low", 8, Asm.inc(1, 2, -1), 6, Small.pointer(2, -1000000, 0));
+    Small.fault("INC POINTER by 0, told too far", 8, Asm.inc(1, 2, 0), 6, Small.pointer(2, 0, 1000001));
+    Small.fault("INC POINTER back", 8, Asm.inc(1, 2, -1), 0, Small.pointer(2, 5, 1000001));
   }
 
   private static void products() {
-    makes("MUL", Asm.mul(1, 2, 3), ints(1, -35, 42), ints(2, -5, 6), ints(3, 3, 7));
-    makes("MUL of itself", Asm.mul(1, 2, 2), ints(1, -30, 36), ints(2, -5, 6));
-    makes("MUL of those below 0", Asm.mul(1, 2, 3), ints(1, 6, 20), ints(2, -5, -3), ints(3, -4, -2));
-    makes("MUL by 0", Asm.mul(1, 2, 3), ints(1, 0, 0), ints(2, Asm.MIN, Asm.MAX), ints(3, 0, 0));
-    makes("MUL to the greatest", Asm.mul(1, 2, 3), ints(1, -Asm.MAX, Asm.MAX), ints(2, -Asm.MAX, Asm.MAX), ints(3, 1, 1));
-    makes("MUL of the least by -1", Asm.mul(1, 2, 3), Asm.anyInt(1), ints(2, Asm.MIN, -5), ints(3, -1, -1));
-    makes("MUL above", Asm.mul(1, 2, 3), Asm.anyInt(1), ints(2, 0, 65536), ints(3, 0, 32768));
-    makes("MUL below", Asm.mul(1, 2, 3), Asm.anyInt(1), ints(2, -65536, 0), ints(3, 0, 32769));
-    makes("MUL to the least", Asm.mul(1, 2, 3), ints(1, Asm.MIN, 0), ints(2, -65536, 0), ints(3, 0, 32768));
-    makes("MUL of all", Asm.mul(1, 2, 3), Asm.anyInt(1), Asm.anyInt(2), Asm.anyInt(3));
+    Small.makes("MUL", Asm.mul(1, 2, 3), Small.ints(1, -35, 42), Small.ints(2, -5, 6), Small.ints(3, 3, 7));
+    Small.makes("MUL of itself", Asm.mul(1, 2, 2), Small.ints(1, -30, 36), Small.ints(2, -5, 6));
+    Small.makes("MUL of those below 0", Asm.mul(1, 2, 3), Small.ints(1, 6, 20), Small.ints(2, -5, -3), Small.ints(3, -4, -2));
+    Small.makes("MUL by 0", Asm.mul(1, 2, 3), Small.ints(1, 0, 0), Small.ints(2, Asm.MIN, Asm.MAX), Small.ints(3, 0, 0));
+    Small.makes("MUL to the greatest", Asm.mul(1, 2, 3), Small.ints(1, -Asm.MAX, Asm.MAX), Small.ints(2, -Asm.MAX, Asm.MAX), Small.ints(3, 1, 1));
+    Small.makes("MUL of the least by -1", Asm.mul(1, 2, 3), Asm.anyInt(1), Small.ints(2, Asm.MIN, -5), Small.ints(3, -1, -1));
+    Small.makes("MUL above", Asm.mul(1, 2, 3), Asm.anyInt(1), Small.ints(2, 0, 65536), Small.ints(3, 0, 32768));
+    Small.makes("MUL below", Asm.mul(1, 2, 3), Asm.anyInt(1), Small.ints(2, -65536, 0), Small.ints(3, 0, 32769));
+    Small.makes("MUL to the least", Asm.mul(1, 2, 3), Small.ints(1, Asm.MIN, 0), Small.ints(2, -65536, 0), Small.ints(3, 0, 32768));
+    Small.makes("MUL of all", Asm.mul(1, 2, 3), Asm.anyInt(1), Asm.anyInt(2), Asm.anyInt(3));
   }
 
   private static void quotients() {
-    makes("DIV", Asm.div(1, 2, 3), ints(1, -2, 3), ints(2, -5, 6), ints(3, 2, 7));
-    makes("DIV by those below 0", Asm.div(1, 2, 3), ints(1, -3, 2), ints(2, -5, 6), ints(3, -7, -2));
-    makes("DIV towards 0", Asm.div(1, 2, 3), ints(1, -3, -3), ints(2, -7, -7), ints(3, 2, 2));
-    makes("DIV of the least by -1", Asm.div(1, 2, 3), Asm.anyInt(1), ints(2, Asm.MIN, Asm.MIN), ints(3, -1, -1));
-    makes("DIV of the next by -1", Asm.div(1, 2, 3), ints(1, 5, Asm.MAX), ints(2, Asm.MIN + 1, -5), ints(3, -1, -1));
-    makes("DIV of the least by -2 .. -1", Asm.div(1, 2, 3), Asm.anyInt(1), ints(2, Asm.MIN, 5), ints(3, -2, -1));
-    makes("DIV of all by 1", Asm.div(1, 2, 3), Asm.anyInt(1), Asm.anyInt(2), ints(3, 1, Asm.MAX));
-    makes("DIV into its divisor", Asm.div(3, 2, 3), ints(3, 1, 5), ints(2, 4, 5), ints(3, 1, 4));
+    Small.makes("DIV", Asm.div(1, 2, 3), Small.ints(1, -2, 3), Small.ints(2, -5, 6), Small.ints(3, 2, 7));
+    Small.makes("DIV by those below 0", Asm.div(1, 2, 3), Small.ints(1, -3, 2), Small.ints(2, -5, 6), Small.ints(3, -7, -2));
+    Small.makes("DIV towards 0", Asm.div(1, 2, 3), Small.ints(1, -3, -3), Small.ints(2, -7, -7), Small.ints(3, 2, 2));
+    Small.makes("DIV of the least by -1", Asm.div(1, 2, 3), Asm.anyInt(1), Small.ints(2, Asm.MIN, Asm.MIN), Small.ints(3, -1, -1));
+    Small.makes("DIV of the next by -1", Asm.div(1, 2, 3), Small.ints(1, 5, Asm.MAX), Small.ints(2, Asm.MIN + 1, -5), Small.ints(3, -1, -1));
+    Small.makes("DIV of the least by -2 .. -1", Asm.div(1, 2, 3), Asm.anyInt(1), Small.ints(2, Asm.MIN, 5), Small.ints(3, -2, -1));
+    Small.makes("DIV of all by 1", Asm.div(1, 2, 3), Asm.anyInt(1), Asm.anyInt(2), Small.ints(3, 1, Asm.MAX));
+    Small.makes("DIV into its divisor", Asm.div(3, 2, 3), Small.ints(3, 1, 5), Small.ints(2, 4, 5), Small.ints(3, 1, 4));
     for (int op = 7; op <= 8; op++) {
-      fault("by 0 .. 0", 8, Asm.word(op, 1, 2, 3 << 12), 5, ints(2, 1, 1), ints(3, 0, 0));
-      fault("by -1 .. 1", 8, Asm.word(op, 1, 2, 3 << 12), 5, ints(2, 1, 1), ints(3, -1, 1));
-      fault("by 0 .. 1", 8, Asm.word(op, 1, 2, 3 << 12), 5, ints(2, 1, 1), ints(3, 0, 1));
-      fault("by -1 .. 0", 8, Asm.word(op, 1, 2, 3 << 12), 5, ints(2, 1, 1), ints(3, -1, 0));
-      fault("by -1 .. -1", 8, Asm.word(op, 1, 2, 3 << 12), 0, ints(2, 1, 1), ints(3, -1, -1));
-      fault("by 1 .. 1", 8, Asm.word(op, 1, 2, 3 << 12), 0, ints(2, 1, 1), ints(3, 1, 1));
+      Small.fault("by 0 .. 0", 8, Asm.word(op, 1, 2, 3 << 12), 5, Small.ints(2, 1, 1), Small.ints(3, 0, 0));
+      Small.fault("by -1 .. 1", 8, Asm.word(op, 1, 2, 3 << 12), 5, Small.ints(2, 1, 1), Small.ints(3, -1, 1));
+      Small.fault("by 0 .. 1", 8, Asm.word(op, 1, 2, 3 << 12), 5, Small.ints(2, 1, 1), Small.ints(3, 0, 1));
+      Small.fault("by -1 .. 0", 8, Asm.word(op, 1, 2, 3 << 12), 5, Small.ints(2, 1, 1), Small.ints(3, -1, 0));
+      Small.fault("by -1 .. -1", 8, Asm.word(op, 1, 2, 3 << 12), 0, Small.ints(2, 1, 1), Small.ints(3, -1, -1));
+      Small.fault("by 1 .. 1", 8, Asm.word(op, 1, 2, 3 << 12), 0, Small.ints(2, 1, 1), Small.ints(3, 1, 1));
     }
   }
 
@@ -240,113 +190,72 @@ public final class VerifyTest {
         high = Math.max(high, x / z);
       }
     }
-    makes("DIV by trying", Asm.div(1, 2, 3), ints(1, low, high), ints(2, lowA, highA), ints(3, lowB, highB));
+    Small.makes("DIV by trying", Asm.div(1, 2, 3), Small.ints(1, low, high), Small.ints(2, lowA, highA), Small.ints(3, lowB, highB));
   }
 
   private static void remainders() {
-    makes("REM", Asm.rem(1, 2, 3), ints(1, -6, 6), ints(2, -5, 6), ints(3, 2, 7));
-    makes("REM of those from 0 on", Asm.rem(1, 2, 3), ints(1, 0, 6), ints(2, 0, 1), ints(3, 2, 7));
-    makes("REM of those up to 0", Asm.rem(1, 2, 3), ints(1, -6, 0), ints(2, -9, 0), ints(3, -7, -2));
-    makes("REM of 0", Asm.rem(1, 2, 3), ints(1, 0, 0), ints(2, 0, 0), ints(3, -7, -2));
-    makes("REM by 1", Asm.rem(1, 2, 3), ints(1, 0, 0), Asm.anyInt(2), ints(3, 1, 1));
-    makes("REM by the least", Asm.rem(1, 2, 3), ints(1, -Asm.MAX, Asm.MAX), Asm.anyInt(2), ints(3, Asm.MIN, -1));
-    makes("REM by the greatest", Asm.rem(1, 2, 3), ints(1, 1 - Asm.MAX, Asm.MAX - 1), Asm.anyInt(2), ints(3, 1, Asm.MAX));
+    Small.makes("REM", Asm.rem(1, 2, 3), Small.ints(1, -6, 6), Small.ints(2, -5, 6), Small.ints(3, 2, 7));
+    Small.makes("REM of those from 0 on", Asm.rem(1, 2, 3), Small.ints(1, 0, 6), Small.ints(2, 0, 1), Small.ints(3, 2, 7));
+    Small.makes("REM of those up to 0", Asm.rem(1, 2, 3), Small.ints(1, -6, 0), Small.ints(2, -9, 0), Small.ints(3, -7, -2));
+    Small.makes("REM of 0", Asm.rem(1, 2, 3), Small.ints(1, 0, 0), Small.ints(2, 0, 0), Small.ints(3, -7, -2));
+    Small.makes("REM by 1", Asm.rem(1, 2, 3), Small.ints(1, 0, 0), Asm.anyInt(2), Small.ints(3, 1, 1));
+    Small.makes("REM by the least", Asm.rem(1, 2, 3), Small.ints(1, -Asm.MAX, Asm.MAX), Asm.anyInt(2), Small.ints(3, Asm.MIN, -1));
+    Small.makes("REM by the greatest", Asm.rem(1, 2, 3), Small.ints(1, 1 - Asm.MAX, Asm.MAX - 1), Asm.anyInt(2), Small.ints(3, 1, Asm.MAX));
   }
 
   private static void bits() {
-    makes("AND", Asm.and(1, 2, 0xFFFF), ints(1, 0, 65535), Asm.anyInt(2));
-    makes("AND of few", Asm.and(1, 2, 6), ints(1, 0, 6), ints(2, 1, 1));
-    makes("AND 0", Asm.and(1, 2, 0), ints(1, 0, 0), Asm.anyInt(2));
-    makes("SHIFT", Asm.shift(1, 2, 2), ints(1, -2, 2), ints(2, -5, 11));
-    makes("SHIFT 0", Asm.shift(1, 2, 0), ints(1, -5, 11), ints(2, -5, 11));
-    makes("SHIFT 31", Asm.shift(1, 2, 31), ints(1, -1, 0), Asm.anyInt(2));
+    Small.makes("AND", Asm.and(1, 2, 0xFFFF), Small.ints(1, 0, 65535), Asm.anyInt(2));
+    Small.makes("AND of few", Asm.and(1, 2, 6), Small.ints(1, 0, 6), Small.ints(2, 1, 1));
+    Small.makes("AND 0", Asm.and(1, 2, 0), Small.ints(1, 0, 0), Asm.anyInt(2));
+    Small.makes("SHIFT", Asm.shift(1, 2, 2), Small.ints(1, -2, 2), Small.ints(2, -5, 11));
+    Small.makes("SHIFT 0", Asm.shift(1, 2, 0), Small.ints(1, -5, 11), Small.ints(2, -5, 11));
+    Small.makes("SHIFT 31", Asm.shift(1, 2, 31), Small.ints(1, -1, 0), Asm.anyInt(2));
   }
 
   private static void cells() {
-    makes("LOAD", Asm.load(1, 2, 0), Asm.anyInt(1), pointer(2, 0, 7));
-    makes("LOAD into its pointer", Asm.load(2, 2, 0), Asm.anyInt(2), pointer(2, 0, 7));
-    makes("STORE", Asm.store(1, 2, 0), ints(1, 3, 4), ints(1, 3, 4), pointer(2, 0, 7));
+    Small.makes("LOAD", Asm.load(1, 2, 0), Asm.anyInt(1), Small.pointer(2, 0, 7));
+    Small.makes("LOAD into its pointer", Asm.load(2, 2, 0), Asm.anyInt(2), Small.pointer(2, 0, 7));
+    Small.makes("STORE", Asm.store(1, 2, 0), Small.ints(1, 3, 4), Small.ints(1, 3, 4), Small.pointer(2, 0, 7));
     for (int op = 13; op <= 14; op++) {
-      fault("cell 0 .. 8", 8, Asm.word(op, 1, 2, 0), 3, ints(1, 0, 0), pointer(2, 0, 8));
-      fault("cell -1 .. 7", 8, Asm.word(op, 1, 2, 0), 3, ints(1, 0, 0), pointer(2, -1, 7));
-      fault("cell 1 .. 8 less 1", 8, Asm.word(op, 1, 2, -1), 0, ints(1, 0, 0), pointer(2, 1, 8));
-      fault("cell 0 .. 8 less 1", 8, Asm.word(op, 1, 2, -1), 3, ints(1, 0, 0), pointer(2, 0, 8));
-      fault("cell -3 .. 4 and 3", 8, Asm.word(op, 1, 2, 3), 0, ints(1, 0, 0), pointer(2, -3, 4));
-      fault("cell -3 .. 5 and 3", 8, Asm.word(op, 1, 2, 3), 3, ints(1, 0, 0), pointer(2, -3, 5));
-      fault("cell beyond all", 1024, Asm.word(op, 1, 2, 32767), 3, ints(1, 0, 0), pointer(2, 0, Asm.MAX));
-      fault("cell below all", 1024, Asm.word(op, 1, 2, -32768), 3, ints(1, 0, 0), pointer(2, Asm.MIN, 0));
-      fault("the last of 1024", 1024, Asm.word(op, 1, 2, 0), 0, ints(1, 0, 0), pointer(2, 1023, 1023));
-      fault("behind the last of 1024", 1024, Asm.word(op, 1, 2, 0), 3, ints(1, 0, 0), pointer(2, 1024, 1024));
+      Small.fault("cell 0 .. 8", 8, Asm.word(op, 1, 2, 0), 3, Small.ints(1, 0, 0), Small.pointer(2, 0, 8));
+      Small.fault("cell -1 .. 7", 8, Asm.word(op, 1, 2, 0), 3, Small.ints(1, 0, 0), Small.pointer(2, -1, 7));
+      Small.fault("cell 1 .. 8 less 1", 8, Asm.word(op, 1, 2, -1), 0, Small.ints(1, 0, 0), Small.pointer(2, 1, 8));
+      Small.fault("cell 0 .. 8 less 1", 8, Asm.word(op, 1, 2, -1), 3, Small.ints(1, 0, 0), Small.pointer(2, 0, 8));
+      Small.fault("cell -3 .. 4 and 3", 8, Asm.word(op, 1, 2, 3), 0, Small.ints(1, 0, 0), Small.pointer(2, -3, 4));
+      Small.fault("cell -3 .. 5 and 3", 8, Asm.word(op, 1, 2, 3), 3, Small.ints(1, 0, 0), Small.pointer(2, -3, 5));
+      Small.fault("cell beyond all", 1024, Asm.word(op, 1, 2, 32767), 3, Small.ints(1, 0, 0), Small.pointer(2, 0, Asm.MAX));
+      Small.fault("cell below all", 1024, Asm.word(op, 1, 2, -32768), 3, Small.ints(1, 0, 0), Small.pointer(2, Asm.MIN, 0));
+      Small.fault("the last of 1024", 1024, Asm.word(op, 1, 2, 0), 0, Small.ints(1, 0, 0), Small.pointer(2, 1023, 1023));
+      Small.fault("behind the last of 1024", 1024, Asm.word(op, 1, 2, 0), 3, Small.ints(1, 0, 0), Small.pointer(2, 1024, 1024));
     }
-  }
-
-  /** EXIT; the branch, at 1, to 3; at 2 and 3 JUMPs to themselves. Labels only where types are given. */
-  private static int branch(int word, int[][] at1, int[][] at2, int[][] at3) {
-    RegionYard y = new RegionYard();
-    Asm.open(y, 4, Asm.exit(0), word, Asm.jump(2), Asm.jump(3));
-    Asm.label(y, 0, 0, Asm.zero(0));
-    Asm.label(y, 1, 0, at1);
-    if (at2 != null) {
-      Asm.label(y, 2, 0, at2);
-    }
-    if (at3 != null) {
-      Asm.label(y, 3, 0, at3);
-    }
-    return y.verify();
-  }
-
-  private static int[][] both(int low1, int high1, int low2, int high2) {
-    return new int[][] {ints(1, low1, high1), ints(2, low2, high2)};
-  }
-
-  /** The types on a way are exactly these: narrower ones are not met. */
-  private static void wayIs(String what, int word, int[][] from, int[][] next, int[][] there) {
-    int[][] any = {};
-    Asm.due(what, branch(word, from, next == null ? any : next, there == null ? any : there), 0);
-    for (int r = 0; r < 2; r++) {
-      for (int bound = 2; bound <= 3; bound++) {
-        if (next != null && next[r][2] < next[r][3]) {
-          Asm.due(what + ", next " + r + bound, branch(word, from, narrower(next, r, bound), there == null ? any : there), 20);
-        }
-        if (there != null && there[r][2] < there[r][3]) {
-          Asm.due(what + ", there " + r + bound, branch(word, from, next == null ? any : next, narrower(there, r, bound)), 20);
-        }
-      }
-    }
-  }
-
-  private static int[][] narrower(int[][] types, int register, int bound) {
-    int[][] all = {types[0].clone(), types[1].clone()};
-    all[register][bound] += bound == 2 ? 1 : -1;
-    return all;
   }
 
   private static void lessWays() {
-    int[][] any = {};
+    int[][] any = Small.ANY;
     int word = Asm.less(1, 2, 3);
-    wayIs("LESS", word, both(0, 9, 0, 9), both(0, 9, 0, 9), both(0, 8, 1, 9));
-    wayIs("LESS apart", word, both(0, 5, 3, 9), both(3, 5, 3, 5), both(0, 5, 3, 9));
-    wayIs("LESS over", word, both(3, 9, 0, 5), both(3, 9, 0, 5), both(3, 4, 4, 5));
-    wayIs("LESS of all", word, both(Asm.MIN, Asm.MAX, Asm.MIN, Asm.MAX), both(Asm.MIN, Asm.MAX, Asm.MIN, Asm.MAX),
-      both(Asm.MIN, Asm.MAX - 1, Asm.MIN + 1, Asm.MAX));
+    Small.wayIs("LESS", word, Small.both(0, 9, 0, 9), Small.both(0, 9, 0, 9), Small.both(0, 8, 1, 9));
+    Small.wayIs("LESS apart", word, Small.both(0, 5, 3, 9), Small.both(3, 5, 3, 5), Small.both(0, 5, 3, 9));
+    Small.wayIs("LESS over", word, Small.both(3, 9, 0, 5), Small.both(3, 9, 0, 5), Small.both(3, 4, 4, 5));
+    Small.wayIs("LESS of all", word, Small.both(Asm.MIN, Asm.MAX, Asm.MIN, Asm.MAX), Small.both(Asm.MIN, Asm.MAX, Asm.MIN, Asm.MAX),
+      Small.both(Asm.MIN, Asm.MAX - 1, Asm.MIN + 1, Asm.MAX));
     // N is not gone: nothing is asked of it
-    Asm.due("LESS never, no label", branch(word, both(5, 9, 0, 5), any, null), 16 * 3 + 7);
-    wayIs("LESS never", word, both(5, 9, 0, 5), both(5, 9, 0, 5), both(77, 77, 77, 77));
-    wayIs("LESS never of the greatest", word, both(Asm.MAX, Asm.MAX, Asm.MIN, Asm.MAX),
-      both(Asm.MAX, Asm.MAX, Asm.MIN, Asm.MAX), both(0, 0, 0, 0));
-    wayIs("LESS never than the least", word, both(Asm.MIN, Asm.MAX, Asm.MIN, Asm.MIN),
-      both(Asm.MIN, Asm.MAX, Asm.MIN, Asm.MIN), both(0, 0, 0, 0));
+    Asm.due("LESS never, no label", Small.branch(word, Small.both(5, 9, 0, 5), any, null), 16 * 3 + 7);
+    Small.wayIs("LESS never", word, Small.both(5, 9, 0, 5), Small.both(5, 9, 0, 5), Small.both(77, 77, 77, 77));
+    Small.wayIs("LESS never of the greatest", word, Small.both(Asm.MAX, Asm.MAX, Asm.MIN, Asm.MAX),
+      Small.both(Asm.MAX, Asm.MAX, Asm.MIN, Asm.MAX), Small.both(0, 0, 0, 0));
+    Small.wayIs("LESS never than the least", word, Small.both(Asm.MIN, Asm.MAX, Asm.MIN, Asm.MIN),
+      Small.both(Asm.MIN, Asm.MAX, Asm.MIN, Asm.MIN), Small.both(0, 0, 0, 0));
     // the next index is not gone
-    wayIs("LESS always", word, both(0, 4, 5, 9), both(77, 77, 77, 77), both(0, 4, 5, 9));
-    Asm.due("LESS always, the next is no label", branch(word, both(0, 4, 5, 9), null, any), 16 * 2 + 7);
-    Asm.due("LESS mostly, the next is no label", branch(word, both(0, 5, 5, 9), null, any), REACHED);
+    Small.wayIs("LESS always", word, Small.both(0, 4, 5, 9), Small.both(77, 77, 77, 77), Small.both(0, 4, 5, 9));
+    Asm.due("LESS always, the next is no label", Small.branch(word, Small.both(0, 4, 5, 9), null, any), 16 * 2 + 7);
+    Asm.due("LESS mostly, the next is no label", Small.branch(word, Small.both(0, 5, 5, 9), null, any), Small.REACHED);
     // of one register
-    Asm.due("LESS of itself never goes to N", branch(Asm.less(1, 1, 99), both(0, 9, 0, 9), both(0, 9, 0, 9), any), 0);
-    Asm.due("LESS of itself goes on as it was", branch(Asm.less(1, 1, 99), both(0, 9, 0, 9), both(0, 8, 0, 9), any), 20);
-    Asm.due("LESS of itself goes on", branch(Asm.less(1, 1, 3), both(0, 9, 0, 9), null, both(77, 77, 0, 0)), REACHED);
+    Asm.due("LESS of itself never goes to N", Small.branch(Asm.less(1, 1, 99), Small.both(0, 9, 0, 9), Small.both(0, 9, 0, 9), any), 0);
+    Asm.due("LESS of itself goes on as it was", Small.branch(Asm.less(1, 1, 99), Small.both(0, 9, 0, 9), Small.both(0, 8, 0, 9), any), 20);
+    Asm.due("LESS of itself goes on", Small.branch(Asm.less(1, 1, 3), Small.both(0, 9, 0, 9), null, Small.both(77, 77, 0, 0)), Small.REACHED);
     // N ahead of the next one, and where it goes at all
-    Asm.due("LESS, N no label, next unmet", branch(Asm.less(1, 2, 9), both(0, 9, 0, 9), both(5, 5, 0, 0), any), 17);
-    Asm.due("LESS, N unmet, next of another", branch(word, both(0, 9, 0, 9), null, both(5, 5, 0, 0)), 20);
+    Asm.due("LESS, N no label, next unmet", Small.branch(Asm.less(1, 2, 9), Small.both(0, 9, 0, 9), Small.both(5, 5, 0, 0), any), 17);
+    Asm.due("LESS, N unmet, next of another", Small.branch(word, Small.both(0, 9, 0, 9), null, Small.both(5, 5, 0, 0)), 20);
     lessAtTheEnd();
   }
 
@@ -355,37 +264,37 @@ public final class VerifyTest {
       RegionYard y = new RegionYard();
       Asm.open(y, 4, Asm.exit(0), Asm.less(1, 2, 0));
       Asm.label(y, 0, 0, Asm.zero(0));
-      Asm.label(y, 1, 0, Asm.zero(0), ints(1, 0, high), ints(2, 5, 9));
+      Asm.label(y, 1, 0, Asm.zero(0), Small.ints(1, 0, high), Small.ints(2, 5, 9));
       Asm.due("LESS as the last word", y.verify(), high == 4 ? 0 : 17);
     }
   }
 
   private static void sameWays() {
-    int[][] any = {};
+    int[][] any = Small.ANY;
     int word = Asm.same(1, 2, 3);
-    wayIs("SAME", word, both(0, 9, 0, 9), both(0, 9, 0, 9), both(0, 9, 0, 9));
-    wayIs("SAME apart", word, both(0, 5, 3, 9), both(0, 5, 3, 9), both(3, 5, 3, 5));
-    wayIs("SAME within", word, both(3, 4, -9, 9), both(3, 4, -9, 9), both(3, 4, 3, 4));
-    wayIs("SAME never", word, both(0, 2, 3, 9), both(0, 2, 3, 9), both(77, 77, 0, 0));
-    Asm.due("SAME never, next is no label", branch(word, both(0, 2, 3, 9), null, both(77, 77, 0, 0)), REACHED);
-    Asm.due("SAME of one number still goes on", branch(word, both(5, 5, 5, 5), both(77, 77, 0, 0), any), 20);
-    Asm.due("SAME of itself never goes on", branch(Asm.same(1, 1, 3), both(0, 9, 0, 9), both(77, 77, 0, 0), both(0, 9, 0, 9)), 0);
-    Asm.due("SAME of itself goes to N", branch(Asm.same(1, 1, 3), both(0, 9, 0, 9), any, both(1, 9, 0, 9)), 20);
-    Asm.due("SAME of itself, N no label", branch(Asm.same(1, 1, 4), both(0, 9, 0, 9), any, any), 17);
-    Asm.due("SAME of itself: next not reached", branch(Asm.same(1, 1, 3), both(0, 9, 0, 9), null, any), 16 * 2 + 7);
-    Asm.due("SAME, N ahead of the next", branch(Asm.same(1, 2, 65535), both(0, 9, 0, 9), both(77, 77, 0, 0), any), 17);
+    Small.wayIs("SAME", word, Small.both(0, 9, 0, 9), Small.both(0, 9, 0, 9), Small.both(0, 9, 0, 9));
+    Small.wayIs("SAME apart", word, Small.both(0, 5, 3, 9), Small.both(0, 5, 3, 9), Small.both(3, 5, 3, 5));
+    Small.wayIs("SAME within", word, Small.both(3, 4, -9, 9), Small.both(3, 4, -9, 9), Small.both(3, 4, 3, 4));
+    Small.wayIs("SAME never", word, Small.both(0, 2, 3, 9), Small.both(0, 2, 3, 9), Small.both(77, 77, 0, 0));
+    Asm.due("SAME never, next is no label", Small.branch(word, Small.both(0, 2, 3, 9), null, Small.both(77, 77, 0, 0)), Small.REACHED);
+    Asm.due("SAME of one number still goes on", Small.branch(word, Small.both(5, 5, 5, 5), Small.both(77, 77, 0, 0), any), 20);
+    Asm.due("SAME of itself never goes on", Small.branch(Asm.same(1, 1, 3), Small.both(0, 9, 0, 9), Small.both(77, 77, 0, 0), Small.both(0, 9, 0, 9)), 0);
+    Asm.due("SAME of itself goes to N", Small.branch(Asm.same(1, 1, 3), Small.both(0, 9, 0, 9), any, Small.both(1, 9, 0, 9)), 20);
+    Asm.due("SAME of itself, N no label", Small.branch(Asm.same(1, 1, 4), Small.both(0, 9, 0, 9), any, any), 17);
+    Asm.due("SAME of itself: next not reached", Small.branch(Asm.same(1, 1, 3), Small.both(0, 9, 0, 9), null, any), 16 * 2 + 7);
+    Asm.due("SAME, N ahead of the next", Small.branch(Asm.same(1, 2, 65535), Small.both(0, 9, 0, 9), Small.both(77, 77, 0, 0), any), 17);
   }
 
   private static void goings() {
-    int[][] any = {};
-    int[][] from = both(0, 9, 0, 9);
-    Asm.due("JUMP", branch(Asm.jump(3), from, any, from), 0);
-    Asm.due("JUMP unmet", branch(Asm.jump(3), from, any, both(0, 9, 0, 8)), 20);
-    Asm.due("JUMP from any", branch(Asm.jump(3), any, any, both(Asm.MIN, Asm.MAX, Asm.MIN, Asm.MAX)), 20);
-    Asm.due("JUMP to a wider one", branch(Asm.jump(3), from, any, both(-1, 10, -1, 10)), 0);
-    Asm.due("JUMP to no word", branch(Asm.jump(4), from, any, any), 17);
-    Asm.due("JUMP to 65535", branch(Asm.jump(65535), from, any, any), 17);
-    Asm.due("JUMP to no label", branch(Asm.jump(2), from, null, any), 17);
+    int[][] any = Small.ANY;
+    int[][] from = Small.both(0, 9, 0, 9);
+    Asm.due("JUMP", Small.branch(Asm.jump(3), from, any, from), 0);
+    Asm.due("JUMP unmet", Small.branch(Asm.jump(3), from, any, Small.both(0, 9, 0, 8)), 20);
+    Asm.due("JUMP from any", Small.branch(Asm.jump(3), any, any, Small.both(Asm.MIN, Asm.MAX, Asm.MIN, Asm.MAX)), 20);
+    Asm.due("JUMP to a wider one", Small.branch(Asm.jump(3), from, any, Small.both(-1, 10, -1, 10)), 0);
+    Asm.due("JUMP to no word", Small.branch(Asm.jump(4), from, any, any), 17);
+    Asm.due("JUMP to 65535", Small.branch(Asm.jump(65535), from, any, any), 17);
+    Asm.due("JUMP to no label", Small.branch(Asm.jump(2), from, null, any), 17);
     RegionYard y = new RegionYard();
     Asm.open(y, 1, Asm.yieldTurn(), Asm.exit(0), Asm.jump(2));
     y.function(2);
@@ -446,12 +355,12 @@ public final class VerifyTest {
   }
 
   private static void calls() {
-    int[][] any = {};
-    int[][] three = {ints(1, 3, 3)};
-    int[][] zero = {ints(1, 0, 0)};
-    int[] outThree = ints(1, 3, 3);
+    int[][] any = Small.ANY;
+    int[][] three = {Small.ints(1, 3, 3)};
+    int[][] zero = {Small.ints(1, 0, 0)};
+    int[] outThree = Small.ints(1, 3, 3);
     Asm.due("CALL", callVerdict(1, any, any, outThree, three), 0);
-    Asm.due("CALL, OUT wider than behind", callVerdict(1, any, any, ints(1, 2, 3), three), 4);
+    Asm.due("CALL, OUT wider than behind", callVerdict(1, any, any, Small.ints(1, 2, 3), three), 4);
     Asm.due("CALL, nothing OUT", callVerdict(1, any, any, null, three), 4);
     Asm.due("CALL, nothing wanted behind", callVerdict(1, any, any, null, any), 0);
     Asm.due("CALL, registers are not kept", callVerdict(1, zero, any, null, zero), 4);
@@ -510,7 +419,7 @@ public final class VerifyTest {
     Asm.open(y, 1, Asm.exit(0), Asm.set(2, 4), Asm.giveBack());
     y.function(1);
     Asm.label(y, 0, 0, Asm.zero(0));
-    Asm.label(y, 1, 1, ints(1, 0, 5));
+    Asm.label(y, 1, 1, Small.ints(1, 0, 5));
     y.out(1, 2, Asm.INT, 4, 6);
     Asm.due("verify of the library", y.verify(), 0);
     Asm.open(y, 1, Asm.linked(link), Asm.jump(1));
@@ -523,16 +432,16 @@ public final class VerifyTest {
   }
 
   private static void linkedCalls() {
-    int[][] any = {};
-    int[][] good = {ints(1, 0, 5)};
-    Asm.due("LINKED", linkedVerdict(0, good, new int[][] {ints(2, 4, 6)}), 0);
-    Asm.due("LINKED of narrower ones", linkedVerdict(0, new int[][] {ints(1, 0, 0)}, any), 0);
+    int[][] any = Small.ANY;
+    int[][] good = {Small.ints(1, 0, 5)};
+    Asm.due("LINKED", linkedVerdict(0, good, new int[][] {Small.ints(2, 4, 6)}), 0);
+    Asm.due("LINKED of narrower ones", linkedVerdict(0, new int[][] {Small.ints(1, 0, 0)}, any), 0);
     Asm.due("LINKED of no link", linkedVerdict(1, good, any), 8);
     Asm.due("LINKED of 65535", linkedVerdict(65535, good, null), 8);
     Asm.due("LINKED, the entry is not met", linkedVerdict(0, any, any), 9);
-    Asm.due("LINKED, the entry is not met", linkedVerdict(0, new int[][] {ints(1, 0, 6)}, null), 9);
+    Asm.due("LINKED, the entry is not met", linkedVerdict(0, new int[][] {Small.ints(1, 0, 6)}, null), 9);
     Asm.due("LINKED, no label behind", linkedVerdict(0, good, null), 1);
-    Asm.due("LINKED, OUT is wider", linkedVerdict(0, good, new int[][] {ints(2, 4, 5)}), 4);
+    Asm.due("LINKED, OUT is wider", linkedVerdict(0, good, new int[][] {Small.ints(2, 4, 5)}), 4);
     Asm.due("LINKED, not OUT", linkedVerdict(0, good, good), 4);
   }
 
