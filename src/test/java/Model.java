@@ -11,7 +11,8 @@ import java.util.TreeMap;
 /**
  * The document once more, for ease of reading, in another style than the class and with the whole
  * library: FuzzTest asks both the same. By the same hand as the class, so it finds slips, not a
- * misreading of the document. A step that the rules should have ruled out is an error.
+ * misreading of the document. A step that the rules should have ruled out is an error, and so is a
+ * register outside of the type that was proved for it: that finds a misreading that proves too much.
  */
 final class Model {
   static final BigInteger LEAST = BigInteger.valueOf(Integer.MIN_VALUE);
@@ -42,6 +43,10 @@ final class Model {
 
     boolean isEmpty() {
       return low.compareTo(high) > 0;
+    }
+
+    boolean holds(int number) {
+      return kind == 0 || low.intValue() <= number && number <= high.intValue();
     }
   }
 
@@ -80,6 +85,8 @@ final class Model {
     Map<Integer, Mark> marks = new TreeMap<>();
     List<Fun> funs = new ArrayList<>();
     List<Tie> ties = new ArrayList<>();
+    /** By index: the types with which the word was gone through when it was last looked at. */
+    Map<Integer, Type[]> proved = new TreeMap<>();
     int state;
     int answer = -1;
 
@@ -278,6 +285,7 @@ final class Model {
       if (types == null) {
         return 16 * i + 7;
       }
+      prog.proved.put(i, types.clone());
       Walk walk = new Walk(this, prog, i, types);
       int reason = walk.reason();
       if (reason != 0) {
@@ -531,6 +539,7 @@ final class Model {
     int b = n >> 12;
     int s = n >= 32768 ? n - 65536 : n;
     int[] r = p.registers;
+    holdsWhatIsProved(prog, p);
     if (op == 0) {
       p.value = r[a];
       return op;
@@ -569,6 +578,15 @@ final class Model {
         p.index = back[1];
     }
     return op;
+  }
+
+  private static void holdsWhatIsProved(Prog prog, Proc p) {
+    Type[] types = prog.proved.get(p.index);
+    for (int i = 0; i < 8; i++) {
+      if (!types[i].holds(p.registers[i])) {
+        throw new IllegalStateException("the rules prove of register " + i + " what is not so");
+      }
+    }
   }
 
   private int where(Proc p, long offset) {
